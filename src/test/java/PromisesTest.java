@@ -28,6 +28,7 @@ public final class PromisesTest {
         test.openRefusesFilesOfHeads();
         test.openFindsWrongFileBlocks();
         test.openReplaysLog();
+        test.openKeepsWholeRecords();
         test.openWipesOldLog();
         test.openNumbersFiles();
         test.acknowledged();
@@ -118,17 +119,20 @@ public final class PromisesTest {
     private void format() {
         part("promise 2");
         SegmentLog log = new SegmentLog();
-        adds(log, 1, 7);
+        adds(log, 1, 6);
+        log.commit(-1);
+        adds(log, 7, 7);
         log.commit(-1);
         adds(log, 8, 12);
         for (int n : new int[] {3, 65, 0, -1, -4, 128, Integer.MIN_VALUE, Integer.MAX_VALUE}) {
             due("format(" + n + ")", log.format(n), BAD);
         }
-        dueCounts(log, 16, 10, 1, 12, 2, 1, 1, 1, 13, 1, 1);
+        dueCounts(log, 16, 10, 2, 12, 2, 1, 1, 2, 13, 1, 2);
         due("format(4)", log.format(4), 0);
         dueCounts(log, 4, 2, 0, 0, 0, 0, 0, 0, 1, 1, 0);
         dueZeroDisk(log, 4);
         due("get(1)", log.get(1), 0);
+        due("record(0, 0)", log.record(0, 0), 0);
         due("use(2)", log.use(2), 0);
         due("acknowledged()", log.acknowledged(), 0);
         due("format(64)", log.format(64), 0);
@@ -548,9 +552,12 @@ public final class PromisesTest {
 
     /** No FILE's BLOCK is right here: a HEAD that counts is seen by the BLOCK that open() tells. */
     private void dueFiles(String what, int answer, int... files) {
-        SegmentLog log = closed(new SegmentLog());
-        Forge.head(log, 1, 1, 9, files);
-        due(what, log.open(), answer);
+        for (int generation = 1; generation <= 2; generation++) {
+            SegmentLog log = closed(new SegmentLog());
+            Forge.head(log, generation % 2, generation, 9, files);
+            due(what, log.open(), answer);
+            due(what + ": FILES", log.count(2), 0);
+        }
     }
 
     private void openRefusesFilesOfHeads() {
@@ -665,15 +672,44 @@ public final class PromisesTest {
         SegmentLog behind = closed(new SegmentLog());
         Forge.head(behind, 1, 1, 10, 4, 6, 1, 2);
         Forge.fileBlock(behind, 6, 4, 0, 1, 2, 50);
-        Forge.logBlock(behind, 3, 3, 7);
+        Forge.logBlock(behind, 3, 3, 0x01000000000AL);
         Forge.logBlock(behind, 4, 2, 10);
-        Forge.logBlock(behind, 5, 3, 0x01000000000AL);
+        Forge.logBlock(behind, 5, 3, 7);
         due("open()", behind.open(), 4);
         due("record(0, 0)", behind.record(0, 0), 10);
         due("record(3, 0)", behind.record(3, 0), 51);
         due("count(8)", behind.count(8), 12);
         dueZeroBlock(behind, 3);
         dueZeroBlock(behind, 5);
+    }
+
+    private void openKeepsWholeRecords() {
+        part("promise 8, records");
+        SegmentLog log = new SegmentLog();
+        long[] values = {Long.MIN_VALUE, -1, 0x0102030405060708L, Long.MAX_VALUE, -256, 255};
+        for (int i = 0; i < 3; i++) {
+            log.add(-values[i], values[i]);
+        }
+        log.commit(-1);
+        for (int i = 3; i < 6; i++) {
+            log.add(-values[i], values[i]);
+        }
+        log.crash(64);
+        due("open()", log.open(), 6);
+        for (long value : values) {
+            due("get(" + -value + ")", log.get(-value), value);
+        }
+        log.add(0, 1);
+        int[] places = {0, 0};
+        for (int i = 0; i < 7; i++) {
+            long place = log.record(i, 2);
+            check.dueTrue("place " + place, place >= 0 && place <= 2);
+            if (place < 2) {
+                places[(int) place]++;
+            }
+        }
+        due("records in FILES", places[0], 3);
+        due("records in LOG", places[1], 3);
     }
 
     private void openWipesOldLog() {
