@@ -423,6 +423,7 @@ public final class SegmentLog {
         }
     }
 
+    /** A HEAD counts wherever its FILES end: a BLOCK behind the end of THE DISK is a wrong one here. */
     private int firstWrongBlock() {
         for (int i = 0; i < head.files; i++) {
             for (int place = 0; place < head.field(i, FILE_BLOCKS); place++) {
@@ -436,7 +437,8 @@ public final class SegmentLog {
 
     private boolean isFileBlock(int i, int place) {
         int block = head.field(i, FILE_FIRST) + place;
-        return disk.isWhole(block)
+        return disk.has(block, 0)
+            && disk.isWhole(block)
             && disk.value(block, 0) == SORT_FILE
             && disk.value(block, 1) == recordsAt(place, head.field(i, FILE_RECORDS))
             && disk.number(block, 2, 2) == head.field(i, FILE_NUMBER)
@@ -859,8 +861,8 @@ public final class SegmentLog {
                 int first = (int) disk.number(block, fieldAt(i, FILE_FIRST), 2);
                 int blocks = (int) disk.number(block, fieldAt(i, FILE_BLOCKS), 2);
                 int records = (int) disk.number(block, fieldAt(i, FILE_RECORDS), 2);
-                boolean onDisk = first >= HEADS && blocks >= 1 && first + blocks <= disk.size;
-                if (!onDisk || blocksFor(records) != blocks || overlaps(first, blocks)) {
+                boolean fits = first >= HEADS && blocks >= 1 && blocksFor(records) == blocks;
+                if (!fits || overlaps(first, blocks)) {
                     return false;
                 }
                 append((int) disk.number(block, fieldAt(i, FILE_NUMBER), 2), first, blocks, records);

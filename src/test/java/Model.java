@@ -1,6 +1,8 @@
 import java.util.ArrayList;
 import java.util.Comparator;
+import java.util.HashSet;
 import java.util.List;
+import java.util.Set;
 
 /**
  * The document once more, held in lists and computed anew at every question:
@@ -237,7 +239,7 @@ final class Model {
         if (itsGeneration < 1 || itsGeneration > 1000000000 || itsNext < 1 || itsNext > 1000000000) {
             return null;
         }
-        boolean[] taken = new boolean[disk.length];
+        Set<Integer> taken = new HashSet<>();
         List<int[]> named = new ArrayList<>();
         for (int i = 0; i < many; i++) {
             int[] f = new int[4];
@@ -248,10 +250,9 @@ final class Model {
                 return null;
             }
             for (int block = f[1]; block < f[1] + f[2]; block++) {
-                if (block >= disk.length || taken[block]) {
+                if (!taken.add(block)) {
                     return null;
                 }
-                taken[block] = true;
             }
             named.add(f);
         }
@@ -259,6 +260,9 @@ final class Model {
     }
 
     private boolean fits(int[] f, int place) {
+        if (f[1] + place >= disk.length) {
+            return false;
+        }
         byte[] bytes = disk[f[1] + place];
         int due = place < f[2] - 1 ? 3 : f[3] - 3 * (f[2] - 1);
         return whole(f[1] + place) && bytes[0] == 2 && bytes[1] == due && number(bytes, 2, 2) == f[0]

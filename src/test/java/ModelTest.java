@@ -76,7 +76,7 @@ public final class ModelTest {
     /** A change of a few low bytes that leaves the BLOCK WHOLE, so that opening must look at what it says. */
     private void forge() {
         int b = random.nextInt(random.nextBoolean() ? 2 : log.count(0));
-        int[] likely = {0, 1, 2, 3, 4, 6, 8, 10, 12, 14, 16, 18, 20, 22, 48, 51, 55};
+        int[] likely = {0, 1, 2, 3, 4, 6, 8, 10, 11, 12, 14, 16, 18, 19, 20, 22, 48, 51, 55};
         int i = likely[random.nextInt(likely.length)];
         pokeBoth(b, i, 1 + random.nextInt(random.nextBoolean() ? 3 : 255));
         long sum = Forge.sum(log, b);

@@ -26,6 +26,8 @@ public final class PromisesTest {
         test.openChoosesHead();
         test.openRefusesHeads();
         test.openRefusesFilesOfHeads();
+        test.openTellsBlocksBehindTheDisk();
+        test.openTellsTheEndOfTheDisk();
         test.openFindsWrongFileBlocks();
         test.openReplaysLog();
         test.openKeepsWholeRecords();
@@ -568,9 +570,6 @@ public final class PromisesTest {
         dueFiles("in BLOCK 1", 0, 1, 1, 1, 1);
         dueFiles("in BLOCK 0", 0, 1, 0, 1, 1);
         dueFiles("no BLOCK", 0, 1, 2, 0, 0);
-        dueFiles("behind THE DISK", 0, 1, 16, 1, 1);
-        dueFiles("over the end of THE DISK", 0, 1, 15, 2, 4);
-        dueFiles("far behind THE DISK", 0, 1, 65535, 65535, 65535);
         dueFiles("no record", 0, 1, 2, 1, 0);
         dueFiles("three records", -10 - 2, 1, 2, 1, 3);
         dueFiles("four records", 0, 1, 2, 1, 4);
@@ -586,6 +585,61 @@ public final class PromisesTest {
         dueFiles("around", 0, 1, 5, 1, 1, 2, 4, 3, 7);
         dueFiles("five", -10 - 9, 1, 9, 1, 1, 2, 2, 1, 1, 3, 3, 1, 1, 4, 4, 1, 1, 5, 5, 1, 1);
         dueFiles("the fifth over the first", 0, 1, 9, 1, 1, 2, 2, 1, 1, 3, 3, 1, 1, 4, 4, 1, 1, 5, 9, 1, 1);
+    }
+
+    /** That its FILES end on THE DISK is nothing that a HEAD must fulfil to count. */
+    private void openTellsBlocksBehindTheDisk() {
+        part("promise 8, FILES behind THE DISK");
+        dueFiles("the first BLOCK behind", -10 - 16, 1, 16, 1, 1);
+        dueFiles("BLOCK 60", -10 - 60, 1, 60, 1, 1);
+        dueFiles("BLOCK 64", -10 - 64, 1, 64, 1, 3);
+        dueFiles("the greatest BLOCK", -10 - 65535, 1, 65535, 1, 1);
+        dueFiles("the longest FILE", -10 - 65535, 1, 65535, 21845, 65535);
+        dueFiles("too many BLOCKS for the records", 0, 1, 65535, 65535, 65535);
+        dueFiles("four records", 0, 1, 60, 1, 4);
+        dueFiles("over the end", -10 - 15, 1, 15, 2, 4);
+        dueFiles("two over one another", 0, 1, 60, 2, 4, 2, 61, 1, 1);
+        dueFiles("two beside one another", -10 - 60, 1, 60, 2, 4, 2, 62, 1, 1);
+        dueFiles("FILE by FILE", -10 - 60, 1, 60, 1, 1, 2, 2, 1, 1);
+        part("promise 8, the greater HEAD with a FILE behind THE DISK");
+        SegmentLog log = new SegmentLog();
+        adds(log, 1, 4);
+        log.commit(-1);
+        log.crash(0);
+        Forge.head(log, 0, 2, 9, 1, 3, 2, 4, 2, 40, 1, 1);
+        due("open()", log.open(), -10 - 40);
+        dueCounts(log, 16, 0, 0, 0, 0, 0, 0, 0, 0, 0, 0);
+        due("octet(2, 0): no old LOG is wiped", log.octet(2, 0), 1);
+        due("open()", log.open(), -10 - 40);
+        log.poke(0, 63, 1);
+        due("open() by the HEAD before", log.open(), 4);
+    }
+
+    /** All BLOCKS of the FILE that are on THE DISK are right, so that the first behind it is told. */
+    private void openTellsTheEndOfTheDisk() {
+        part("promise 8, a FILE over the end of THE DISK");
+        for (int n : new int[] {4, 16, 64}) {
+            SegmentLog log = closed(formatted(n));
+            Forge.head(log, 1, 1, 9, 1, n - 2, 3, 7);
+            Forge.fileBlock(log, n - 2, 1, 0, 3, 3, 1);
+            Forge.fileBlock(log, n - 1, 1, 1, 3, 3, 4);
+            due("open(), " + n + " BLOCKS", log.open(), -10 - n);
+            due("count(9)", log.count(9), 0);
+            Forge.head(log, 1, 1, 9, 1, n - 2, 2, 6);
+            Forge.fileBlock(log, n - 2, 1, 0, 2, 3, 1);
+            Forge.fileBlock(log, n - 1, 1, 1, 2, 3, 4);
+            due("open(), up to the end", log.open(), 6);
+        }
+        part("promise 8, a HEAD of another DISK");
+        SegmentLog log = formatted(64);
+        log.format(8);
+        log.crash(0);
+        Forge.head(log, 1, 1, 2, 1, 8, 1, 1);
+        due("open()", log.open(), -10 - 8);
+        due("format(8)", log.format(8), 0);
+        dueCounts(log, 8, 6, 0, 0, 0, 0, 0, 0, 1, 1, 0);
+        due("add", log.add(1, 1), 1);
+        due("commit(-1)", log.commit(-1), 1);
     }
 
     private void openFindsWrongFileBlocks() {
