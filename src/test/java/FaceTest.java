@@ -89,6 +89,10 @@ public final class FaceTest {
             for (Field f : c.getDeclaredFields()) {
                 dueStaticIsFinal(f);
             }
+            for (Method m : c.getDeclaredMethods()) {
+                boolean ofTheFace = METHODS.stream().anyMatch(face -> face.contains(" " + m.getName() + "("));
+                check.dueTrue(c.getName() + "." + m.getName(), !ofTheFace);
+            }
         }
     }
 

@@ -61,8 +61,10 @@ public final class ModelTest {
             check.due("open()", log.open(), model.open());
         } else if (turn < 97) {
             pokeBoth(random.nextInt(66) - 1, random.nextInt(66) - 1, random.nextInt(258) - 1);
-        } else if (turn < 99) {
+        } else if (turn < 98) {
             forge();
+        } else if (turn < 99) {
+            forgeEdge();
         } else if (random.nextInt(10) == 0) {
             int n = random.nextInt(70);
             check.due("format(" + n + ")", log.format(n), model.format(n));
@@ -79,12 +81,44 @@ public final class ModelTest {
         int[] likely = {0, 1, 2, 3, 4, 6, 8, 10, 11, 12, 14, 16, 18, 19, 20, 22, 48, 51, 55};
         int i = likely[random.nextInt(likely.length)];
         pokeBoth(b, i, 1 + random.nextInt(random.nextBoolean() ? 3 : 255));
-        long sum = Forge.sum(log, b);
-        for (int k = 0; k < 8; k++) {
-            int mask = (int) (sum >>> (8 * k) & 255) ^ log.octet(b, 56 + k);
+        setBoth(b, 56, 8, Forge.sum(log, b));
+    }
+
+    private void setBoth(int b, int at, int length, long number) {
+        for (int k = 0; k < length; k++) {
+            int mask = (int) (number >>> (8 * k) & 255) ^ log.octet(b, at + k);
             if (mask != 0) {
-                pokeBoth(b, 56 + k, mask);
+                pokeBoth(b, at + k, mask);
             }
+        }
+    }
+
+    /** One number of a HEAD becomes one at, or next to, a bound of the document. */
+    private void forgeEdge() {
+        int[][] fields = {{1, 1}, {2, 6}, {48, 8}, {8, 2}, {10, 2}, {12, 2}, {14, 2}, {18, 2}, {20, 2}, {22, 2}};
+        int n = log.count(0);
+        long[] edges = {0, 1, 2, 3, 4, 5, 6, n - 1, n, 63, 64, 255, 256, 65534, 65535, 999999999, 1000000000,
+            1000000001, 1000000002, 1L << 32 | 1, -1};
+        int b = random.nextInt(2);
+        int[] field = fields[random.nextInt(fields.length)];
+        long edge = edges[random.nextInt(edges.length)];
+        if (field[0] == 8 && log.count(2) > 0) {
+            renumberFirstFile((int) (edge & 65535));
+            return;
+        }
+        setBoth(b, field[0], field[1], edge);
+        setBoth(b, 56, 8, Forge.sum(log, b));
+    }
+
+    /** In the HEAD and in its BLOCKS, so that the store opens with it. */
+    private void renumberFirstFile(int number) {
+        int head = log.count(7) % 2;
+        setBoth(head, 8, 2, number);
+        setBoth(head, 56, 8, Forge.sum(log, head));
+        for (int place = 0; place < log.file(0, 2); place++) {
+            int block = log.file(0, 1) + place;
+            setBoth(block, 2, 2, number);
+            setBoth(block, 56, 8, Forge.sum(log, block));
         }
     }
 

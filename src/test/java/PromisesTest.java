@@ -1,8 +1,5 @@
 /** The promises of the document, one by one: ordinary inputs, edges, wrong inputs. */
-public final class PromisesTest {
-    private static final int BAD = -1, NONE = -2, FULL = -3, CLOSED = -4, TURN = -5;
-    private final Check check = new Check();
-
+public final class PromisesTest extends Steps {
     public static void main(String[] args) {
         PromisesTest test = new PromisesTest();
         test.newObject();
@@ -47,66 +44,6 @@ public final class PromisesTest {
         test.count();
         test.countClosed();
         test.check.end();
-    }
-
-    private void due(String call, long got, long want) {
-        check.due(call, got, want);
-    }
-
-    private void part(String name) {
-        check.part(name);
-    }
-
-    /** Records key = from .. to, value = 10 * key. */
-    private static void adds(SegmentLog log, int from, int to) {
-        for (int key = from; key <= to; key++) {
-            log.add(key, 10L * key);
-        }
-    }
-
-    private static SegmentLog formatted(int n) {
-        SegmentLog log = new SegmentLog();
-        log.format(n);
-        return log;
-    }
-
-    private static SegmentLog closed(SegmentLog log) {
-        log.crash(0);
-        return log;
-    }
-
-    private void dueCounts(SegmentLog log, int... counts) {
-        for (int what = 0; what < counts.length; what++) {
-            due("count(" + what + ")", log.count(what), counts[what]);
-        }
-    }
-
-    private void dueFile(SegmentLog log, int i, int... fields) {
-        for (int what = 0; what < fields.length; what++) {
-            due("file(" + i + ", " + what + ")", log.file(i, what), fields[what]);
-        }
-    }
-
-    private void dueZeroDisk(SegmentLog log, int blocks) {
-        for (int b = 0; b < blocks; b++) {
-            dueZeroBlock(log, b);
-        }
-    }
-
-    private void dueZeroBlock(SegmentLog log, int block) {
-        for (int i = 0; i < 64; i++) {
-            due("octet(" + block + ", " + i + ")", log.octet(block, i), 0);
-        }
-    }
-
-    private void dueBytes(SegmentLog log, int block, int... bytes) {
-        for (int i = 0; i < bytes.length; i++) {
-            due("octet(" + block + ", " + i + ")", log.octet(block, i), bytes[i]);
-        }
-        for (int i = bytes.length; i < 56; i++) {
-            due("octet(" + block + ", " + i + ")", log.octet(block, i), 0);
-        }
-        check.dueTrue("SUM of " + block, Forge.whole(log, block));
     }
 
     private void newObject() {
@@ -346,14 +283,6 @@ public final class PromisesTest {
         for (int i = 0; i < keys.length; i++) {
             due("record(" + i + ", 0)", log.record(i, 0), keys[i]);
             due("record(" + i + ", 1)", log.record(i, 1), values[i]);
-        }
-    }
-
-    private void dueRecordsOnDisk(SegmentLog log, int first, long[] keys, long[] values) {
-        for (int i = 0; i < keys.length; i++) {
-            int at = 8 + 16 * (i % 3);
-            due("key " + i + " on THE DISK", Forge.number(log, first + i / 3, at, 8), keys[i]);
-            due("value " + i + " on THE DISK", Forge.number(log, first + i / 3, at + 8, 8), values[i]);
         }
     }
 
