@@ -76,10 +76,12 @@ public final class CallEdgesTest extends Steps {
         getNone();
         getClosed();
         timesOfKeys();
+        timesOfNone();
         timesClosed();
         recordFirstAndLast();
         recordPlaces();
         recordNoneSuch();
+        recordNoneSuchAnyMore();
         recordClosed();
         fileFirstToFifth();
         fileBad();
@@ -671,6 +673,29 @@ public final class CallEdgesTest extends Steps {
         due("times(6): LOG, and one that waits", busy.times(6), 2);
     }
 
+    /** Keys below, between and above all; the records that were there before a crash are none. */
+    private void timesOfNone() {
+        sentence("promise 11", "How many records with a key there are. (there are none)");
+        SegmentLog log = new SegmentLog();
+        adds(log, 2, 4);
+        log.sync();
+        adds(log, 6, 11);
+        log.crash(0);
+        due("open()", log.open(), 3);
+        for (long key : new long[] {Long.MIN_VALUE, -1, 0, 1, 5, 6, 8, 11, 12, Long.MAX_VALUE}) {
+            due("times(" + key + ")", log.times(key), 0);
+            due("get(" + key + ")", log.get(key), 0);
+        }
+        log.format(16);
+        for (long key : new long[] {-1, 0, 2, 3, 4, 12}) {
+            due("times(" + key + "), formatted", log.times(key), 0);
+        }
+        log.add(-9, 1);
+        due("times(-9)", log.times(-9), 1);
+        due("times(2)", log.times(2), 0);
+        due("times(-10)", log.times(-10), 0);
+    }
+
     private void timesClosed() {
         sentence("promise 11", "CLOSED.");
         SegmentLog log = closed(busy());
@@ -727,6 +752,26 @@ public final class CallEdgesTest extends Steps {
         for (int i : FAR) {
             due("record(" + i + ", 1)", log.record(i, 1), 0);
             due("record(" + i + ", " + i + ")", log.record(i, i), 0);
+        }
+    }
+
+    private void recordNoneSuchAnyMore() {
+        sentence("promise 12", "0: there is none such (any more)");
+        SegmentLog log = new SegmentLog();
+        adds(log, 1, 3);
+        log.sync();
+        adds(log, 4, 12);
+        log.crash(0);
+        due("open()", log.open(), 3);
+        dueRecords(log, 1, 10, 1, 2, 20, 1, 3, 30, 1);
+        for (int i = 3; i <= 12; i++) {
+            for (int what = 0; what <= 2; what++) {
+                due("record(" + i + ", " + what + ")", log.record(i, what), 0);
+            }
+        }
+        log.format(16);
+        for (int i = 0; i <= 12; i++) {
+            due("record(" + i + ", 0), formatted", log.record(i, 0), 0);
         }
     }
 
